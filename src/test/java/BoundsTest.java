@@ -45,6 +45,7 @@ public final class BoundsTest {
         lotsByNumbers();
         lotsBySeeds();
         takenBack();
+        takenBackWhole();
         takenBackNoMore();
         rostersTogether();
         heirs();
@@ -827,6 +828,22 @@ public final class BoundsTest {
             nobodys 0 = 0
             lookerOf 0 3 = 255
             """);
+        // View 0 is looker 0's now (1), a day on looker 1's (3 to 2); then looker 0's again (7 to 3).
+        holds("STARED OUT: one's of now, another one's behind n DAYS", """
+            tell p001;p128;p129;l00;l00;s000000;s101011;d01; = 8
+            stands 1 2 4 2 = 4
+            staredOut 0 1 0 = 0
+            staredOut 0 1 1 = 1
+            staredOut 1 0 1 = 0
+            stands 0 0 5 0 = 6
+            staredOut 0 1 1 = 0
+            """);
+        holds("STARED OUT: not what one owns first by then", """
+            tell p001;l00;l00;s000000; = 4
+            staredOut 0 1 1 = 0
+            owns 0 1 0 = 1
+            staredOut 1 0 1 = 0
+            """);
         holds("STARED OUT: -1 either (one twice); -4; -6", """
             tell p129;l00;l00;s000000;d01;s100010; = 6
             staredOut 0 0 0 = -1
@@ -1123,6 +1140,25 @@ public final class BoundsTest {
             count 14 = 4
             count 16 = 3
             """);
+        // Both have 99696 and 124 a day: 3 days well are enough for 99999, 2 are not: 219 of 256.
+        holds("ILL: 99999 at most", """
+            tell p001;l59;l59;s000230;s100230; = 5
+            again 8 days 99
+            days 12
+            ill 0 0 8 2 0 = 219
+            ill 0 0 8 2 1 = 256
+            ill 0 0 2 2 0 = 1
+            ill 0 0 2 2 1 = 4
+            law 1 = 0
+            ill 0 0 8 2 0 = 0
+            """);
+        holds("ILL: he alone is ill, also a SWEEP", """
+            tell p001;l20;l20; = 3
+            ill 0 0 1 2 0 = 1
+            ill 0 0 1 2 1 = 2
+            ill 1 0 1 2 0 = 0
+            ill 1 0 1 2 1 = 1
+            """);
         // Looker 1 has 2 a day, looker 0 one: of n days he must be well on more than half of them (by law 0).
         holds("ILL: half of the days will not do for the other one", """
             tell p001;l00;l00;s000000;s100010; = 5
@@ -1382,6 +1418,7 @@ public final class BoundsTest {
     /**
      * Who owns view 0 behind one year's lots, the looker told (0) or a SWEEP (1): the SWEEP alone has views 0 and 1 for
      * some days, then view 1 is shown no more; so the RICHEST has 5 (view 0 is the looker's) or 7 (both are the SWEEP's).
+     * The looker stands all hours now: by lots he begins with none.
      */
     private static int ownerByLots(int seed, String looker, int days) {
         Calls.Used x = told("p003;" + looker + "l21;v05;v12;");
@@ -1389,6 +1426,7 @@ public final class BoundsTest {
             x.ask("days", Math.min(99, left));
         }
         x.ask("wall", 0, 1);
+        x.ask("stands", 0, 0, 23, 0);
         long worth = x.ask("lots", 1, seed, 1);
         return worth == 5 ? 0 : worth == 7 ? 1 : -1;
     }
@@ -1559,6 +1597,32 @@ public final class BoundsTest {
             """);
     }
 
+    /** Behind a change that is taken back all is as it was, whichever it was. */
+    private static void takenBackWhole() {
+        String ahead = """
+            tell p003;p012;p048;l13;l00;l29;s009101;s100051;s212122;v15;v27;u1;d02;
+            image
+            pane 192
+            wall 1 1
+            worth 6 4
+            stands 1 20 23 3
+            law 2
+            row 1
+            feed 117
+            """;
+        String was = Calls.portraitBehind(ahead);
+        String[] changes = {"stands 0 9 9 9", "stands 0 0 23 0", "stands 1 0 23 2", "stands 1 3 3 3", "stands 2 0 0 0",
+            "stands 2 12 23 9", "wall 0 0", "wall 0 7", "wall 1 1", "wall 2 5", "wall 3 0", "worth 0 9", "worth 1 0",
+            "worth 2 7", "worth 7 3", "law 0", "law 1", "law 2"};
+        for (String change : changes) {
+            String is = Calls.portraitBehind(ahead + change + "\nback\n");
+            if (!is.equals(was)) {
+                System.out.println(change + " taken back: was " + was + "\n  is " + is);
+            }
+            due(change + ", taken back", is.equals(was) ? 1 : 0, 1);
+        }
+    }
+
     private static void takenBackNoMore() {
         holds("what is refused, only asks, or is not of part I leaves what can be TAKEN BACK", """
             law 2 = 0
@@ -1708,6 +1772,17 @@ public final class BoundsTest {
             tell p001;l00;l00;l59;l00;l59;s000090;s300040; = 8
             swap 1 = 23
             """);
+        // The STARER's single hour 0 (4), or 23 (8), outdoes 3 of looker 0; the hour of looker 1 does not.
+        holds("SWAP: HOURS 0 and 23 too", """
+            tell p001;l00;l00;l59;s009110;s100000; = 6
+            swap 1 = 12
+            stands 1 0 0 9 = 0
+            swap 1 = -9
+            stands 1 23 23 0 = 1
+            swap 1 = 12
+            roster 1 23 = 0
+            roster 2 23 = -9
+            """);
         holds("EVEN: none, one, all five", """
             even 0 = 0
             looker 0 0 = 0
@@ -1729,6 +1804,31 @@ public final class BoundsTest {
     }
 
     private static void heirs() {
+        // Looker 0: views 0 and 1 (2); looker 1: view 2 (2); looker 2: view 3 (3).
+        holds("EVEN, AHEAD: by the WORTH of all VIEWS", """
+            tell p003;p004;p008;l00;l00;l00;s000000;s100001;s200002;v22;v33; = 11
+            even 1 = 1
+            ahead 0 1 = -9
+            ahead 1 0 = -9
+            ahead 2 0 = 1
+            ahead 2 1 = 1
+            ahead 0 2 = -9
+            worth 3 1 = 3
+            ahead 0 2 = 1
+            ahead 2 0 = -9
+            even 1 = 1
+            worth 0 9 = 1
+            ahead 0 1 = 1
+            ahead 1 0 = -9
+            even 1 = 0
+            """);
+        // Looker 1 has view 0 (5), looker 0 view 1 (3): told in the other order of VIEWS.
+        holds("EVEN, AHEAD: the greater WORTH first", """
+            tell p001;p002;l00;l00;s000001;s100000;v05;v13; = 8
+            ahead 0 1 = -9
+            ahead 1 0 = 1
+            even 1 = 0
+            """);
         holds("HEIR: -9; -1 either; -4; -6", """
             tell p001;l00;l00;s000010;s100000;d05; = 6
             heir 0 0 0 = 1

@@ -112,6 +112,22 @@ final class Calls {
         return as <= -1 && as >= -6 ? (int) -as : 0;
     }
 
+    private static List<Line> lines(String script) {
+        List<Line> lines = new ArrayList<>();
+        for (String line : script.split("\n")) {
+            if (!line.isBlank() && !line.trim().startsWith("#")) {
+                lines.add(new Line(line.trim()));
+            }
+        }
+        return lines;
+    }
+
+    /** The portrait of a new object behind a script. */
+    static String portraitBehind(String script) {
+        List<Line> lines = lines(script);
+        return portrait(after(lines, lines.size()));
+    }
+
     private static Used after(List<Line> lines, int many) {
         Used x = new Used();
         for (int i = 0; i < many; i++) {
@@ -126,12 +142,7 @@ final class Calls {
      */
     static List<String> run(String script) {
         List<String> wrong = new ArrayList<>();
-        List<Line> lines = new ArrayList<>();
-        for (String line : script.split("\n")) {
-            if (!line.isBlank() && !line.trim().startsWith("#")) {
-                lines.add(new Line(line.trim()));
-            }
-        }
+        List<Line> lines = lines(script);
         Used x = new Used();
         for (int i = 0; i < lines.size(); i++) {
             Line line = lines.get(i);

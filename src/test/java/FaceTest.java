@@ -48,11 +48,16 @@ public final class FaceTest {
         for (Method m : methods()) {
             got.add(m.getReturnType() + " " + m.getName() + " " + m.getParameterCount());
             names.add(m.getName());
+            for (Class<?> number : m.getParameterTypes()) {
+                hold(m + " takes ints", number == int.class);
+            }
         }
         hold("the public methods are " + want + ", not " + got, got.equals(want));
         int modifiers = WindowTaken.class.getModifiers();
         hold("public and final", Modifier.isPublic(modifiers) && Modifier.isFinal(modifiers));
         hold("one constructor", WindowTaken.class.getDeclaredConstructors().length == 1);
+        hold("a public one of nothing", WindowTaken.class.getConstructors().length == 1
+            && WindowTaken.class.getConstructors()[0].getParameterCount() == 0);
         for (Method m : WindowTaken.class.getDeclaredMethods()) {
             boolean open = Modifier.isPublic(m.getModifiers());
             hold(m + " is private or of the face", open || Modifier.isPrivate(m.getModifiers()));

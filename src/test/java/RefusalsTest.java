@@ -15,7 +15,7 @@ public final class RefusalsTest {
     /** Numbers at the bounds, by the letter that a call's form has in their place. */
     private static int[] edges(char kind) {
         switch (kind) {
-            case 'L': return new int[] {MIN, -1, 0, 2, 3, 4, 5, MAX};
+            case 'L': return new int[] {MIN, -1, 0, 1, 2, 3, 5, MAX};
             case 'V': return new int[] {MIN, -1, 0, 7, 8, MAX};
             case 'P': return new int[] {MIN, -1, 0, 1, 2, 5, 6, 9, MAX};
             case 'H': return new int[] {MIN, -1, 0, 5, 23, 24, MAX};
@@ -122,13 +122,14 @@ public final class RefusalsTest {
         }
     }
 
-    /** Two panes, three lookers, days gone, an image, two to take back, a row, letters; nobody owns view 7. */
+    /** Two panes, three lookers, days gone, an image, three to take back, a row, letters; nobody owns view 7. */
     private static Calls.Used built() {
         Calls.Used x = new Calls.Used();
         x.tell("p003;p070;l07;l13;l34;s004111;s109150;s216210;v15;d02;");
         x.ask("image");
         x.ask("stands", 1, 3, 4, 1);
         x.ask("wall", 0, 5);
+        x.ask("wall", 1, 4);
         x.ask("row", 0);
         x.ask("row", 99);
         x.ask("feed", 'u');
@@ -163,10 +164,17 @@ public final class RefusalsTest {
         return name + java.util.Arrays.toString(a);
     }
 
-    /** A call that is not refused answers no refusal, and counts none. */
+    /** A call that is not refused answers no refusal, and counts none; what was asked ahead of it makes no difference. */
     private static void taken(String name, int[] a) {
         Calls.Used x = built();
         long answer = x.ask(name, a);
+        Calls.Used asked = built();
+        asked.ask("counts", 0, 0, 1);
+        asked.ask("lots", 3, 5, 0);
+        asked.ask("whichKind", 0, 3, 0);
+        asked.ask("swap", 4);
+        asked.ask("last");
+        compare(told(name, a) + " behind other questions", asked.ask(name, a), answer);
         boolean fault = name.equals("terrace");
         compare(told(name, a) + " refuses", fault ? 0 : Calls.refusal(answer), 0);
         for (long refused : Calls.refusals(x)) {
